@@ -735,11 +735,11 @@ public final class HopedHours {
 
         /** The next sign behind blanks, NONE at the end. */
         int look() {
-            while (next < length && at(tape, next) == ' ') {
+            while (next < length && next < tape.length && tape[next] == ' ') {
                 next++;
             }
             mark = next;
-            return next < length ? at(tape, next) : NONE;
+            return next < length && next < tape.length ? tape[next] : NONE;
         }
 
         boolean ended() {
@@ -789,11 +789,11 @@ public final class HopedHours {
 
         /** Whether the word read last is this one. */
         boolean isWord(String name) {
-            if (!good() || next - mark != name.length()) {
+            if (next - mark != name.length()) {
                 return false;
             }
-            for (int i = 0; i < name.length(); i++) {
-                if (at(tape, mark + i) != name.charAt(i)) {
+            for (int i = 0; i < name.length() && mark + i < tape.length; i++) {
+                if (tape[mark + i] != name.charAt(i)) {
                     return false;
                 }
             }
@@ -1115,26 +1115,21 @@ public final class HopedHours {
             int name = nameOf(text);
             if (name != NONE) {
                 add(NAME + name);
-            } else if (text.isWord("least")) {
-                readPair(text, open, LEAST);
-            } else if (text.isWord("most")) {
-                readPair(text, open, MOST);
-            } else {
-                text.refuse(MISPLACED);
-            }
-        }
-
-        private void readPair(Text text, int open, int operator) {
-            if (open >= DEEPEST_OPEN) {
-                text.refuse(TOO_MANY);
                 return;
             }
-            text.needSign('[');
-            readSum(text, open + 1);
-            text.needSign(',');
-            readSum(text, open + 1);
-            text.needSign(']');
-            add(OPERATOR + operator);
+            boolean least = text.isWord("least");
+            if (!least && !text.isWord("most")) {
+                text.refuse(MISPLACED);
+            } else if (open >= DEEPEST_OPEN) {
+                text.refuse(TOO_MANY);
+            } else {
+                text.needSign('[');
+                readSum(text, open + 1);
+                text.needSign(',');
+                readSum(text, open + 1);
+                text.needSign(']');
+                add(OPERATOR + (least ? LEAST : MOST));
+            }
         }
 
         private static int nameOf(Text text) {
@@ -1188,8 +1183,8 @@ public final class HopedHours {
                 case '*': return left * right;
                 case '/': return right == 0 ? 0 : left / right;
                 case '%': return right == 0 ? 0 : left % right;
-                case LEAST: return Math.min(left, right);
-                default: return Math.max(left, right);
+                case LEAST: return left < right ? left : right;
+                default: return left > right ? left : right;
             }
         }
     }

@@ -106,6 +106,10 @@ public final class CallsTest {
         Check.work(x, "bed 0;call 2;");
         CHECK.due("in bed, too; awake ones, too", x.raise(1), 1);
         CHECK.due("who called once calls 2 then", x.raise(4), 2);
+        HopedHours six = Check.made("street 0;".repeat(6) + "man 0 3 1;".repeat(6)
+                + "sleeper 0 3;sleeper 1 3;sleeper 2 3;sleeper 3 3;sleeper 4 3;sleeper 5 3;sleeper 5 3;");
+        CHECK.due("six men", six.raise(127), 63);
+        CHECK.due("five men", six.raise(62), 31);
         // man 0 wakes one of two streets, man 1 one of them only
         HopedHours y = Check.made("street 0;street 0;man 0 1 1;man 0 1 2;sleeper 0 1;sleeper 1 1;",
                 "least [hope, walks] * 1 + street * (walks - 1)");

@@ -6,6 +6,7 @@ public final class ImagesTest {
     public static void main(String[] args) {
         images();
         whatAnImageKeeps();
+        worksOfAnImage();
         status();
         count();
         CHECK.end();
@@ -72,6 +73,27 @@ public final class ImagesTest {
         Check.work(x, "go 0 1;");
         CHECK.due("a restore that has none changes nothing", x.restore(), -1);
         CHECK.due("refused stays", x.told(9), 1);
+    }
+
+    /** Other works in the places of those that the image has must not be what undo() goes back to. */
+    private static void worksOfAnImage() {
+        HopedHours x = Check.made(TOWN);
+        Check.work(x, "hour;");
+        Check.work(x, "hour;");
+        Check.work(x, "hour;");
+        x.image();
+        for (int i = 2; i >= 0; i--) {
+            CHECK.due("undo", x.undo(), i);
+        }
+        Check.work(x, "again 5[hour;];bed 0;");
+        Check.work(x, "again 5[hour;];bed 0;");
+        Check.work(x, "again 5[hour;];bed 0;");
+        CHECK.due("restore", x.restore(), 0);
+        for (int i = 2; i >= 0; i--) {
+            CHECK.due("undo", x.undo(), i);
+            CHECK.due("the hour ahead of it", x.told(4), i);
+            CHECK.due("up", x.told(6), 1);
+        }
     }
 
     private static void status() {

@@ -74,6 +74,8 @@ public final class TextsTest {
         CHECK.due("the law stays", x.says(0, 0), 7);
         CHECK.due("the image stays", x.count(0), 1);
         CHECK.due("the work stays", x.count(2), 1);
+        Check.work(x, "again 30[hour;];");
+        CHECK.due("another night", x.told(5), 1);
         CHECK.due("a new city", Check.city(x, SMALL), 2);
         CHECK.due("hour", x.told(4), 0);
         CHECK.due("night", x.told(5), 0);
@@ -120,6 +122,14 @@ public final class TextsTest {
         cityFault("Street 1;", 1, 0);
         cityFault(" streets 1;", 1, 1);
         cityFault("stree 1;", 1, 0);
+        cityFault("xtreet 1;", 1, 0);
+        cityFault("streex 1;", 1, 0);
+        cityFault("streetz 1;", 1, 0);
+        cityFault("streeta 1;", 1, 0);
+        cityFault("street{1;", 1, 6);
+        cityFault("street`1;", 1, 6);
+        cityFault("street 1:", 1, 8);
+        cityFault("street /;", 1, 7);
         cityFault("street 1;;", 1, 9);
         cityFault(";", 1, 0);
         cityFault("5;", 1, 0);
@@ -363,6 +373,8 @@ public final class TextsTest {
         CHECK.due("tape", y.count(1), 0);
         CHECK.due("no fault", y.fault(), -1);
         CHECK.due("hour", y.told(4), 16);
+        Check.law(y, "1 +");
+        CHECK.due("a fault of another text", y.fault(), 3);
         CHECK.due("a faulty one is not read", Check.work(y, "xx"), -20);
         CHECK.due("no fault", y.fault(), -1);
         CHECK.due("undo", y.undo(), 15);

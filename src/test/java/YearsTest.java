@@ -27,6 +27,8 @@ public final class YearsTest {
         CHECK.due("the night", x.year(0, 23, 0, 2), 0);
         CHECK.due("the next night", x.year(0, 24, 0, 2), 1);
         CHECK.due("four nights", x.year(0, 96, 16, 2), 4);
+        CHECK.due("asked twice", x.year(0, 40, 0, 0), x.year(0, 40, 0, 0));
+        CHECK.due("asked twice", x.year(0, 40, 0, 1), x.year(0, 40, 0, 1));
         Check.work(x, "again 23[hour;];");
         CHECK.due("from now on", x.year(0, 1, 0, 2), 1);
         CHECK.due("nothing stays changed", x.told(4), 23);
