@@ -35,6 +35,25 @@ final class Check {
         }
     }
 
+    /** Both objects answer alike, now and wherever undo() and restore() lead; both are used up by it. */
+    void same(String what, HopedHours x, HopedHours y) {
+        alike(what, state(x), state(y));
+        for (int images = 3; images >= 0; images--) {
+            for (int works = 16; works >= 0; works--) {
+                alike(what + ", night", night(x), night(y));
+                due(what + ", undo", x.undo(), y.undo());
+            }
+            due(what + ", restore", x.restore(), y.restore());
+        }
+    }
+
+    void alike(String what, String got, String want) {
+        if (!got.equals(want)) {
+            wrong++;
+            System.out.println(name + ": " + what + " is now " + got + ", due is " + want);
+        }
+    }
+
     void end() {
         if (wrong != 0) {
             System.out.println(name + ": " + wrong + " answers are not as due");
@@ -53,6 +72,46 @@ final class Check {
             fed = x.feed(numbers[0], numbers[1], numbers[2], numbers[3], numbers[4]);
         }
         return fed;
+    }
+
+    /** All that is told of an object, what depends on its LAW and BOOK, too. */
+    static String state(HopedHours x) {
+        StringBuilder all = new StringBuilder("fault " + x.fault() + " count");
+        for (int what = 0; what <= 2; what++) {
+            all.append(' ').append(x.count(what));
+        }
+        all.append(" told");
+        for (int what = 0; what <= 10; what++) {
+            all.append(' ').append(x.told(what));
+        }
+        all.append(night(x)).append(" says");
+        for (int i = 0; i < x.told(2); i++) {
+            all.append(' ').append(x.says(i, 0)).append(' ').append(x.says(i, x.told(0) - 1));
+        }
+        all.append(" lanes");
+        for (int i = 0; i < x.told(1); i++) {
+            all.append(' ').append(x.lane(i, 0)).append('-').append(x.lane(i, 1));
+        }
+        all.append(" sleepers");
+        for (int i = 0; i < x.told(3); i++) {
+            all.append(' ').append(x.sleeper(i, 0)).append(':').append(x.sleeper(i, 1));
+        }
+        return all.append(" who ").append(x.who(0)).append(' ').append(x.who(1)).toString();
+    }
+
+    /** All that WORK changes, as an object tells it. */
+    static String night(HopedHours x) {
+        StringBuilder all = new StringBuilder(" night");
+        for (int what : new int[] {4, 5, 6, 7, 10}) {
+            all.append(' ').append(x.told(what));
+        }
+        for (int i = 0; i < x.told(0); i++) {
+            all.append(" s").append(x.street(i, 4));
+        }
+        for (int i = 0; i < x.told(2); i++) {
+            all.append(" m").append(x.man(i, 0)).append(':').append(x.man(i, 3));
+        }
+        return all.toString();
     }
 
     static int city(HopedHours x, String text) {
