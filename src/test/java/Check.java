@@ -38,12 +38,14 @@ final class Check {
     /** Both objects answer alike, now and wherever undo() and restore() lead; both are used up by it. */
     void same(String what, HopedHours x, HopedHours y) {
         alike(what, state(x), state(y));
-        for (int images = 3; images >= 0; images--) {
-            for (int works = 16; works >= 0; works--) {
+        for (int images = 3, left = 0; images >= 0 && left != -1; images--) {
+            for (int works = 16, undone = 0; works >= 0 && undone != -1; works--) {
                 alike(what + ", night", night(x), night(y));
-                due(what + ", undo", x.undo(), y.undo());
+                undone = x.undo();
+                due(what + ", undo", undone, y.undo());
             }
-            due(what + ", restore", x.restore(), y.restore());
+            left = x.restore();
+            due(what + ", restore", left, y.restore());
         }
     }
 

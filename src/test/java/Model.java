@@ -289,10 +289,6 @@ final class Model {
         return sets;
     }
 
-    void forget() {
-        unionsByMen.clear();
-    }
-
     int wakes(int man, int street) {
         int bits = 0;
         for (int i = 0; i < sleepers.size(); i++) {
