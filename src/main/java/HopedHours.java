@@ -735,11 +735,11 @@ public final class HopedHours {
 
         /** The next sign behind blanks, NONE at the end. */
         int look() {
-            while (next < length && next < tape.length && tape[next] == ' ') {
+            while (next < length && at(tape, next) == ' ') {
                 next++;
             }
             mark = next;
-            return next < length && next < tape.length ? tape[next] : NONE;
+            return next < length ? at(tape, next) : NONE;
         }
 
         boolean ended() {
@@ -792,8 +792,8 @@ public final class HopedHours {
             if (next - mark != name.length()) {
                 return false;
             }
-            for (int i = 0; i < name.length() && mark + i < tape.length; i++) {
-                if (tape[mark + i] != name.charAt(i)) {
+            for (int i = 0; i < name.length(); i++) {
+                if (at(tape, mark + i) != name.charAt(i)) {
                     return false;
                 }
             }

@@ -22,6 +22,8 @@ public final class BoundsWorkTest {
         nightsEnd();
         awakeFromNowOn();
         sixteenWorks();
+        theMostCalls();
+        theFarthestNight();
         allStaysBehindTwenty();
         allStaysBehindAFault();
         undoing();
@@ -297,6 +299,35 @@ public final class BoundsWorkTest {
         }
         CHECK.due("none is left", x.undo(), -1);
         CHECK.due("room for one", Check.work(x, "hour;"), 1);
+    }
+
+    /** A man's calls go on beyond the 999 that would() takes. */
+    private static void theMostCalls() {
+        HopedHours x = Check.made(TOWN, "calls/100");
+        for (int i = 1; i <= 16; i++) {
+            CHECK.due("199 calls", Check.work(x, "again 60[call 0;call 0;call 0;call 0;];"), 199);
+            CHECK.due("calls", x.man(0, 3), 199 * i);
+            CHECK.due("says", x.says(0, 0), 199 * i / 100 % 24);
+        }
+        CHECK.due("all calls", x.told(10), 3184);
+        CHECK.due("most", x.busiest(1), 3184);
+    }
+
+    /** As far as 16 works lead: 3184 hours, and a year of 96 from there. */
+    private static void theFarthestNight() {
+        HopedHours x = Check.made(TOWN, "night/10+night%10");
+        for (int i = 0; i < 16; i++) {
+            CHECK.due("199 hours", Check.work(x, "again 60[hour;hour;hour;hour;];"), 199);
+        }
+        CHECK.due("night", x.told(5), 132);
+        CHECK.due("hour", x.told(4), 16);
+        CHECK.due("says", x.says(0, 0), 15);
+        CHECK.due("a year's last night", x.year(1, 96, 0, 2), 136);
+        CHECK.due("no more", Check.work(x, "hour;"), -20);
+        CHECK.due("an image keeps hours and works together", x.image(), 1);
+        x.undo();
+        CHECK.due("restore", x.restore() + x.count(2), 16);
+        CHECK.due("no more", Check.work(x, "hour;"), -20);
     }
 
     /** -20: nothing is read, there is no FAULT, the TAPE is empty then; else all stays. */
